@@ -25,8 +25,11 @@ final class Check {
     }
 
     void is(String name, String want, Call call) {
+        is(name, want, told(call));
+    }
+
+    void is(String name, String want, String got) {
         checks++;
-        String got = told(call);
         if (!got.equals(want)) {
             wrong++;
             System.out.println(name + ": answered " + got + ", due is " + want);

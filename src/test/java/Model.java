@@ -265,7 +265,7 @@ final class Model {
         return best;
     }
 
-    /** WORTH by ways of least cost (Bellman and Ford) over CLOUDS, CLOUDS in HOURS, FIELDS. */
+    /** WORTH by ways of most gain (Bellman and Ford) over CLOUDS, CLOUDS in HOURS, FIELDS. */
     int worth(int bits) {
         int cloudHour = 9;
         int field = cloudHour + 8 * LIMIT;
@@ -274,15 +274,7 @@ final class Model {
         for (int k = 0; k < clouds.size(); k++) {
             if ((bits >> k & 1) == 1) {
                 edge(edges, 0, 1 + k, clouds.get(k).q, 0);
-                for (int hour = 0; hour < LIMIT; hour++) {
-                    int[] at = alone(k, hour);
-                    for (int f = 0; f < fields.size() && at != null; f++) {
-                        if (fields.get(f).x == at[0] && fields.get(f).y == at[1]) {
-                            edge(edges, 1 + k, cloudHour + 50 * k + hour, rate, 0);
-                            edge(edges, cloudHour + 50 * k + hour, field + f, rate, 0);
-                        }
-                    }
-                }
+                hours(edges, k, cloudHour + LIMIT * k, field);
             }
         }
         for (int f = 0; f < fields.size(); f++) {
@@ -306,6 +298,27 @@ final class Model {
             worth += many * gain;
         }
         return worth;
+    }
+
+    /** HOURS in which a CLOUD stays where it is are one node: so much longer it can fall. */
+    private void hours(List<int[]> edges, int k, int first, int field) {
+        int[] before = null;
+        int stays = 0;
+        for (int hour = 0; hour <= LIMIT; hour++) {
+            int[] at = hour < LIMIT ? alone(k, hour) : null;
+            if (place(at) == place(before)) {
+                stays++;
+                continue;
+            }
+            for (int f = 0; f < fields.size() && before != null; f++) {
+                if (100 * fields.get(f).x + fields.get(f).y == place(before)) {
+                    edge(edges, 1 + k, first + hour - 1, rate * stays, 0);
+                    edge(edges, first + hour - 1, field + f, rate * stays, 0);
+                }
+            }
+            before = at;
+            stays = 1;
+        }
     }
 
     private static void edge(List<int[]> edges, int from, int to, int room, int gain) {
@@ -410,6 +423,10 @@ final class Model {
             all *= kinds;
         }
         int[] answer = {0, (1 << many) - 1};
+        boolean[][] passes = new boolean[many][gauges.size()];
+        for (int i = 0; i < many * gauges.size(); i++) {
+            passes[i % many][i / many] = passes(i % many, gauges.get(i / many));
+        }
         for (int code = 0; code < all; code++) {
             int[] fell = new int[kinds];
             int rest = code;
@@ -418,7 +435,7 @@ final class Model {
             for (int k = 0; k < many; k++, rest /= kinds) {
                 int g = rest % kinds;
                 if (g < gauges.size()) {
-                    can &= g != without && passes(k, gauges.get(g));
+                    can &= g != without && passes[k][g];
                     fell[g] += clouds.get(k).q;
                     by |= 1 << k;
                 }

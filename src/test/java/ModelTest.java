@@ -1,7 +1,7 @@
 /** Promises 6 to 28 on skies made by a counted rule, each answer against the Model's. */
 public final class ModelTest {
     private static final Check CHECK = new Check();
-    private static final int SKIES = 300;
+    private static final int SKIES = 1000;
 
     private long state = 1;
 
