@@ -13,6 +13,7 @@ public final class DayTest {
         rainOnFields();
         hail();
         glaciers();
+        firstAsked();
         wrongInputs();
         CHECK.end();
     }
@@ -230,6 +231,28 @@ public final class DayTest {
         CHECK.is("14: what melts comes behind all", 9, () -> order.account(1, 6, 0));
         CHECK.is("14: and gets the rest", 3, () -> order.account(1, 1, 0));
         CHECK.is("14: and is flood", 6, () -> order.account(1, 1, 1));
+    }
+
+    /** Each call goes through the DAY itself, whatever was asked ahead of it. */
+    private static void firstAsked() {
+        String text = "cloud 0 0 0 0 9;field 0 0 3 4 0 2;";
+        OwnedClouds[] x = new OwnedClouds[6];
+        for (int i = 0; i < 6; i++) {
+            x[i] = Check.under(text);
+            x[i].order(7, 0, 0, 6);
+        }
+        CHECK.is("11: first asked", 2, () -> x[0].day(0, 3));
+        CHECK.is("12: first asked", 3, () -> x[1].cloud(0, 0, 7, 0));
+        CHECK.is("13: first asked", 3, () -> x[2].part(0, 0, 7, 7));
+        CHECK.is("14: first asked", 8, () -> x[3].account(0, 7, 0));
+        CHECK.is("15: first asked", 2, () -> x[4].farmer(0, 3, 1));
+        CHECK.is("16: first asked", 2, () -> x[5].after(0, 0, 1));
+        CHECK.is("12: before", 9, () -> x[5].cloud(0, 0, 6, 0));
+        CHECK.is("16: behind that", 2, () -> x[5].after(0, 0, 1));
+        CHECK.is("12: before", 9, () -> x[4].cloud(0, 0, 6, 0));
+        CHECK.is("15: behind that", 8, () -> x[4].farmer(0, 3, 0));
+        CHECK.is("12: before", 9, () -> x[3].cloud(0, 0, 6, 0));
+        CHECK.is("14: behind that", 2, () -> x[3].account(0, 7, 1));
     }
 
     private static void wrongInputs() {

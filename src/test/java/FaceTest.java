@@ -66,6 +66,10 @@ public final class FaceTest {
         CHECK.is("what can be seen beside", "[NONE, public OwnedClouds()]", seen.toString());
         for (Class<?> inside : OwnedClouds.class.getDeclaredClasses()) {
             int how = inside.getModifiers();
+            for (Method method : inside.getDeclaredMethods()) {
+                CHECK.is("no name of the face: " + method, 0, () -> Arrays.stream(OwnedClouds.class.getDeclaredMethods())
+                    .filter(m -> Modifier.isPublic(m.getModifiers()) && m.getName().equals(method.getName())).count());
+            }
             CHECK.is(inside.getName(), 1, () -> Modifier.isStatic(how) && Modifier.isPrivate(how) ? 1 : 0);
             CHECK.is(inside.getName() + " has at most 20 fields", 1, () -> Arrays.stream(inside.getDeclaredFields())
                 .filter(field -> !Modifier.isStatic(field.getModifiers())).count() <= 20 ? 1 : 0);

@@ -166,6 +166,11 @@ public final class ModelTest {
         for (int hour = 0; hour < 50; hour += hour < 12 ? 1 : 9) {
             hour(number, m, x, seed, hour);
         }
+        // a day gone through in part leaves nothing behind
+        for (int what = 0; what < 8; what++) {
+            int asked = what;
+            CHECK.is(number + ", 11 again: " + what, end.total[what], () -> x.day(seed, asked));
+        }
     }
 
     private void hour(int number, Model m, OwnedClouds x, int seed, int hour) {

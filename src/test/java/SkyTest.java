@@ -86,6 +86,43 @@ public final class SkyTest {
         CHECK.is("31: others", -1, () -> x.count(5));
         CHECK.is("31: others", -1, () -> x.count(-1));
         spaces();
+        behindTheEnd();
+        again();
+    }
+
+    /** Bytes of the TAPE behind the first n are no part of the text. */
+    private static void behindTheEnd() {
+        cut("join 1;", 6, -9, 6);
+        cut("join 1 ;", 6, -9, 6);
+        cut("join 1;", 4, -9, 4);
+        cut("join 10;", 6, -9, 6);
+        cut("join 1; x", 7, 0, -1);
+        cut("join 1;  x", 8, 0, -1);
+        cut("rates 1;", 4, -9, 4);
+        cut("rate   1;", 5, -9, 5);
+    }
+
+    private static void cut(String text, int n, int answer, int place) {
+        OwnedClouds x = new OwnedClouds();
+        Check.feed(x, text);
+        CHECK.is("3: " + n + " of " + text, answer, () -> x.sky(n));
+        CHECK.is("4: " + n + " of " + text, place, x::fault);
+    }
+
+    /** Nothing of the SKY before is left in the next one. */
+    private static void again() {
+        OwnedClouds x = Check.under("sky 3 3;join 1;wind 0 1 2 2;cloud 0 0 0 0 9;seen 0 1 1;field 0 0 1 1 1 1;glacier 0 0 9;"
+            + "rate 1;hold 1;hail 1;flood 9;");
+        CHECK.is("3: again", 1, () -> x.sky(Check.feed(x, "cloud 1 1 0 0 5;")));
+        int[] told = {6, 5, 1, 0, 0, 0, 20, 999, 50, 1};
+        for (int what = 0; what < told.length; what++) {
+            int asked = what;
+            CHECK.is("5: again " + what, told[what], () -> x.told(asked));
+        }
+        CHECK.is("6: again", 7, () -> x.owner(0));
+        CHECK.is("7: no wind", 101, () -> x.path(0, 9));
+        CHECK.is("8: no field", Check.IOOBE, () -> x.field(0, 0));
+        CHECK.is("12: holds it", 5, () -> x.cloud(0, 0, 9, 0));
     }
 
     private static void spaces() {
@@ -123,6 +160,8 @@ public final class SkyTest {
         fault("join 1 1;", 1, 7);
         fault("joined 1;", 1, 0);
         fault("joi 1;", 1, 0);
+        fault("skyz 2 2;", 1, 0);
+        fault("field 0 0 7 0 0 0;", 2, 10);
         fault("Join 1;", 1, 0);
         fault("5 join;", 1, 0);
         fault("join\t1;", 1, 4);
