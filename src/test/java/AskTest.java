@@ -175,9 +175,9 @@ public final class AskTest {
         CHECK.is("26: no gauge lies", -1, () -> asked.explain(2));
         asked.gauge(0, 0, 4);
         CHECK.is("26: the liar asked for alone", 0, () -> asked.explain(2));
-        asked.away();
-        asked.gauge(0, 0, 5);
-        CHECK.is("26: no liar asked for alone", -1, () -> asked.explain(2));
+        OwnedClouds fits = Check.under("cloud 0 0 0 0 5;");
+        fits.gauge(0, 0, 5);
+        CHECK.is("26: no liar asked for alone", -1, () -> fits.explain(2));
         OwnedClouds eight = Check.under("cloud 0 0 0 0 1;".repeat(8));
         eight.gauge(0, 0, 6);
         CHECK.is("26: six clouds", 1, () -> eight.explain(0));

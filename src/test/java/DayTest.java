@@ -253,6 +253,10 @@ public final class DayTest {
         CHECK.is("15: behind that", 8, () -> x[4].farmer(0, 3, 0));
         CHECK.is("12: before", 9, () -> x[3].cloud(0, 0, 6, 0));
         CHECK.is("14: behind that", 2, () -> x[3].account(0, 7, 1));
+        OwnedClouds ice = Check.under("cloud 0 0 0 0 9;glacier 0 0 20;");
+        ice.order(7, 0, 0, 6);
+        CHECK.is("12: while a glacier keeps", 3, () -> ice.cloud(0, 0, 10, 0));
+        CHECK.is("11: it starts with nothing again", 6, () -> ice.day(0, 4));
     }
 
     private static void wrongInputs() {

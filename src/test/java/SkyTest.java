@@ -161,6 +161,7 @@ public final class SkyTest {
         fault("joined 1;", 1, 0);
         fault("joi 1;", 1, 0);
         fault("skyz 2 2;", 1, 0);
+        fault("kind 0 0 1 1;", 1, 0);
         fault("field 0 0 7 0 0 0;", 2, 10);
         fault("Join 1;", 1, 0);
         fault("5 join;", 1, 0);
