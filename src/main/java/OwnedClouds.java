@@ -475,6 +475,9 @@ public final class OwnedClouds {
     private static final class Sky {
         static final int WIDTH = 0;
         static final int HEIGHT = 1;
+        static final int CLOUDS = 2;
+        static final int FIELDS = 3;
+        static final int GLACIERS = 4;
         static final int LAW = 5;
         static final int RATE = 6;
         static final int HOLD = 7;
@@ -540,9 +543,9 @@ public final class OwnedClouds {
 
         int fact(int what) {
             switch (what) {
-                case 2: return clouds.size();
-                case 3: return fields.size();
-                case 4: return glaciers.size();
+                case CLOUDS: return clouds.size();
+                case FIELDS: return fields.size();
+                case GLACIERS: return glaciers.size();
                 default: return facts.get(what);
             }
         }
