@@ -1132,6 +1132,7 @@ public final class OwnedClouds {
         private void join(int first, int second) {
             int law = sky.fact(Sky.LAW);
             int counts = law == 0 ? earlier(first, second) : fuller(first, second);
+            // its OWNER at this moment, so of one that has nothing left the first of all
             int owner = parts.mostIn(counts);
             for (int o = 0; o < OWNERS; o++) {
                 parts.add(first, o, parts.get(second, o));
