@@ -1022,7 +1022,8 @@ public final class OwnedClouds {
         private final Row cells;
         /** By CLOUD and OWNER: the WATER. */
         private final Table parts;
-        /** By CLOUD: when its OWNER saw it. */
+        /** By CLOUD: whose it is, also when nothing is left in it, and when he saw it. */
+        private final Row owners;
         private final Row minutes;
         /** By CLOUD: what fell by ORDERS in this HOUR. */
         private final Row ordered;
@@ -1036,6 +1037,7 @@ public final class OwnedClouds {
             ground = new Ground(sky);
             cells = new Row(MOST_CLOUDS);
             parts = new Table(MOST_CLOUDS, OWNERS);
+            owners = new Row(MOST_CLOUDS);
             minutes = new Row(MOST_CLOUDS);
             ordered = new Row(MOST_CLOUDS);
         }
@@ -1105,6 +1107,7 @@ public final class OwnedClouds {
                 if (sky.clouds.get(k, Sky.T) == hour) {
                     cells.set(k, sky.trails.get(k, hour));
                     parts.set(k, sky.clouds.get(k, Sky.OWNER), sky.clouds.get(k, Sky.Q));
+                    owners.set(k, sky.clouds.get(k, Sky.OWNER));
                     minutes.set(k, sky.clouds.get(k, Sky.MINUTE));
                 }
             }
@@ -1131,21 +1134,27 @@ public final class OwnedClouds {
 
         private void join(int first, int second) {
             int law = sky.fact(Sky.LAW);
+            // before they are one: by law 1 what each has ahead of it tells who counts
             int counts = law == 0 ? earlier(first, second) : fuller(first, second);
-            // its OWNER at this moment, so of one that has nothing left the first of all
-            int owner = parts.mostIn(counts);
             for (int o = 0; o < OWNERS; o++) {
                 parts.add(first, o, parts.get(second, o));
             }
             if (law != 2) {
-                int all = parts.sum(first);
-                parts.emptyRow(first);
-                parts.set(first, owner, all);
-                minutes.set(first, minutes.get(counts));
+                giveAll(first, counts);
             }
             parts.emptyRow(second);
             cells.set(second, NONE);
             joins++;
+        }
+
+        /** All WATER of a CLOUD, and the CLOUD with its MINUTE, is the OWNER's of the one that counted. */
+        private void giveAll(int cloud, int counts) {
+            int owner = owners.get(counts);
+            int all = parts.sum(cloud);
+            parts.emptyRow(cloud);
+            parts.set(cloud, owner, all);
+            owners.set(cloud, owner);
+            minutes.set(cloud, minutes.get(counts));
         }
 
         private int earlier(int first, int second) {

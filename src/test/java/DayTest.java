@@ -7,6 +7,8 @@ public final class DayTest {
         joinByMinute();
         joinByWater();
         joinTogether();
+        joinOfOneLeftEmpty();
+        joinOfOneJoinedAndLeftEmpty();
         hold();
         rate();
         salt();
@@ -102,6 +104,73 @@ public final class DayTest {
         CHECK.is("12: emptied, it is still there", 0, () -> x.cloud(0, 0, 1, 0));
         CHECK.is("12: of all that have none the first", 0, () -> x.cloud(0, 0, 1, 1));
         CHECK.is("12: where it is", 0, () -> x.cloud(0, 0, 1, 2));
+    }
+
+    /** Who saw a CLOUD is its OWNER, also when nothing is left in it. */
+    private static void joinOfOneLeftEmpty() {
+        OwnedClouds x = Check.under("cloud 0 0 0 0 1;seen 0 3 5;cloud 0 0 0 1 9;seen 1 4 9;field 0 0 2 5 0 2;flood 3;");
+        x.order(0, 0, 0, 1);
+        x.order(1, 0, 0, 9);
+        CHECK.is("12: emptied", 0, () -> x.cloud(0, 0, 0, 0));
+        CHECK.is("13: emptied, nothing is his", 0, () -> x.part(0, 0, 0, 3));
+        CHECK.is("14: who saw it first is paid", 10, () -> x.account(0, 3, 0));
+        CHECK.is("14: and owes", 15, () -> x.account(0, 3, 1));
+        CHECK.is("14: who saw it later is not", 0, () -> x.account(0, 4, 0));
+        CHECK.is("14: nor who saw none", 0, () -> x.account(0, 0, 0));
+        x.clear();
+        x.order(0, 0, 0, 1);
+        for (int owner = 0; owner < 8; owner++) {
+            int asked = owner;
+            CHECK.is("13: all is the earlier one's, " + owner, owner == 3 ? 9 : 0, () -> x.part(0, 0, 1, asked));
+        }
+        CHECK.is("12: its owner", 3, () -> x.cloud(0, 0, 1, 1));
+        CHECK.is("11: one joined", 1, () -> x.day(0, 6));
+        OwnedClouds alike = Check.under("cloud 0 0 0 0 1;seen 0 3 5;cloud 0 0 0 1 9;seen 1 4 5;");
+        alike.order(0, 0, 0, 1);
+        CHECK.is("13: of alike ones the lesser number", 9, () -> alike.part(0, 0, 1, 3));
+        OwnedClouds later = Check.under("cloud 0 0 0 0 1;seen 0 3 5;cloud 0 0 0 1 9;seen 1 4 4;");
+        later.order(0, 0, 0, 1);
+        CHECK.is("13: seen later it has none", 9, () -> later.part(0, 0, 1, 4));
+        OwnedClouds joins = Check.under("cloud 0 0 0 2 9;seen 0 4 9;cloud 0 0 0 0 1;seen 1 3 5;");
+        joins.order(0, 1, 0, 1);
+        CHECK.is("13: the empty one joins", 9, () -> joins.part(0, 0, 2, 3));
+        OwnedClouds nobodys = Check.under("cloud 0 0 0 0 1;cloud 0 0 0 1 9;");
+        nobodys.order(0, 0, 0, 1);
+        CHECK.is("13: both are nobody's", 9, () -> nobodys.part(0, 0, 1, 7));
+        OwnedClouds first = Check.under("cloud 0 0 0 0 1;cloud 0 0 0 1 9;seen 1 4 999;");
+        first.order(0, 0, 0, 1);
+        CHECK.is("13: nobody's is last", 9, () -> first.part(0, 0, 1, 4));
+        OwnedClouds more = Check.under("join 1;cloud 0 0 0 0 1;seen 0 3 5;cloud 0 0 0 1 9;seen 1 4 9;");
+        more.order(0, 0, 0, 1);
+        CHECK.is("13: by law 1 the empty one has less", 9, () -> more.part(0, 0, 1, 4));
+        OwnedClouds own = Check.under("join 2;cloud 0 0 0 0 1;seen 0 3 5;cloud 0 0 0 1 9;seen 1 4 9;");
+        own.order(0, 0, 0, 1);
+        CHECK.is("13: by law 2 each has his own", 9, () -> own.part(0, 0, 1, 4));
+    }
+
+    /** One that was joined is the other OWNER's then, with his MINUTE, also when nothing is left in it. */
+    private static void joinOfOneJoinedAndLeftEmpty() {
+        OwnedClouds x = Check.under("cloud 0 0 0 0 1;seen 0 3 5;cloud 0 0 0 1 1;seen 1 4 2;cloud 0 0 0 2 5;seen 2 2 9;"
+            + "cloud 0 0 0 3 6;seen 3 1 4;cloud 0 0 0 4 7;seen 4 6 1;");
+        x.order(0, 0, 0, 1);
+        x.order(1, 0, 0, 1);
+        x.order(2, 0, 0, 5);
+        CHECK.is("6: as first seen", 3, () -> x.owner(0));
+        CHECK.is("12: emptied again", 0, () -> x.cloud(0, 0, 2, 0));
+        CHECK.is("13: between the minutes of both", 6, () -> x.part(0, 0, 3, 4));
+        CHECK.is("13: an earlier one has all", 13, () -> x.part(0, 0, 4, 6));
+        x.clear();
+        x.order(0, 0, 0, 1);
+        x.order(1, 0, 0, 1);
+        CHECK.is("13: all is the second one's", 5, () -> x.part(0, 0, 2, 4));
+        CHECK.is("13: nothing is the first one's", 0, () -> x.part(0, 0, 2, 3));
+        CHECK.is("13: nor his who saw none", 0, () -> x.part(0, 0, 2, 0));
+        CHECK.is("13: nor the third one's", 0, () -> x.part(0, 0, 2, 2));
+        // a day gone through leaves no owner behind for the next one
+        x.clear();
+        x.order(0, 0, 0, 1);
+        CHECK.is("13: another day, the first's water is out", 1, () -> x.part(0, 0, 1, 4));
+        CHECK.is("13: as in a day before", 0, () -> x.part(0, 0, 0, 4));
     }
 
     private static void hold() {

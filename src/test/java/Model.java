@@ -78,6 +78,7 @@ final class Model {
         final int[][] part = new int[8][8];
         final int[] x = new int[8];
         final int[] y = new int[8];
+        final int[] owner = new int[8];
         final int[] minute = new int[8];
         final int[][] account = new int[8][3];
         final int[][] farmer = new int[7][2];
@@ -123,6 +124,7 @@ final class Model {
                     there[k] = true;
                     x[k] = c.x;
                     y[k] = c.y;
+                    owner[k] = c.owner;
                     minute[k] = c.minute;
                     part[k][c.owner] = c.q;
                 }
@@ -171,15 +173,18 @@ final class Model {
         private void join(int j, int k) {
             boolean later = law == 0 ? minute[k] < minute[j] : sum(part[k]) > sum(part[j]);
             int counts = later ? k : j;
-            int his = most(part[counts]);
             int all = sum(part[j]) + sum(part[k]);
+            if (all == 0) {
+                throw new IllegalStateException("one of two that join came in this hour, with water");
+            }
             if (law == 2) {
                 for (int o = 0; o < 8; o++) {
                     part[j][o] += part[k][o];
                 }
             } else {
                 part[j] = new int[8];
-                part[j][his] = all;
+                part[j][owner[counts]] = all;
+                owner[j] = owner[counts];
                 minute[j] = minute[counts];
             }
             part[k] = new int[8];
