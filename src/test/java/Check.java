@@ -1,15 +1,27 @@
+import java.io.IOException;
+import java.nio.file.Files;
+import java.nio.file.Path;
+
 /** What the tests share: counted checks, answers told as texts, and texts brought to an object as its SKY. */
 final class Check {
     interface Call {
         long answer();
     }
 
+    interface CallOf {
+        long answer(int number);
+    }
+
     static final String IAE = "throws.IllegalArgumentException";
     static final String NSE = "throws.NoSuchElementException";
     static final String IOOBE = "throws.IndexOutOfBoundsException";
 
+    private static final Path DOC = Path.of("../shared/DOC.md");
+
     private int checks;
     private int wrong;
+    private String sentence = "";
+    private String document;
 
     /** The answer of a call, or throws. and the name of what it throws. */
     static String told(Call call) {
@@ -32,7 +44,43 @@ final class Check {
         checks++;
         if (!got.equals(want)) {
             wrong++;
-            System.out.println(name + ": answered " + got + ", due is " + want);
+            System.out.println(sentence + name + ": answered " + got + ", due is " + want);
+        }
+    }
+
+    /** The next checks are of these words, which must stand in the document. */
+    void sentence(String words) {
+        sentence = "";
+        is("\"" + words + "\" stands in the document", "true", Boolean.toString(document().contains(words)));
+        sentence = "\"" + words + "\": ";
+    }
+
+    private String document() {
+        if (document == null) {
+            try {
+                document = Files.readString(DOC).replaceAll("\\s+", " ");
+            } catch (IOException e) {
+                throw new IllegalStateException("no document", e);
+            }
+        }
+        return document;
+    }
+
+    /** What is due at an edge and beside it: "-1:IAE 0:5" is an exception of -1, and 5 of 0. */
+    void edge(String name, String dues, CallOf call) {
+        for (String due : dues.split(" ")) {
+            String[] pair = due.split(":");
+            int number = Integer.parseInt(pair[0]);
+            is(name + " " + number, written(pair[1]), () -> call.answer(number));
+        }
+    }
+
+    private static String written(String due) {
+        switch (due) {
+            case "IAE": return IAE;
+            case "NSE": return NSE;
+            case "IOOBE": return IOOBE;
+            default: return due;
         }
     }
 
